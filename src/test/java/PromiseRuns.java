@@ -29,6 +29,7 @@ public final class PromiseRuns {
         days();
         daysFall();
         daysUse();
+        daysAtEdges();
         lastDay();
         tried();
         letterIs();
@@ -216,6 +217,10 @@ public final class PromiseRuns {
         lawFault(x, "p[](1=1)", -1002);
         lawFault(x, "p1+(1=1)", -1003);
         lawFault(x, "p1**1(1=1)", -1003);
+        lawFault(x, "p1*123456(1=1)", -2008);
+        lawFault(x, "p1+123456(1=1)", -2008);
+        lawFault(x, "p1*[[[[[[[1", -5009);
+        lawFault(x, "x(1=1|1=123456)", -2013);
         lawFault(x, "p1a(1=1)", -1002);
         lawFault(x, "pa(1=1)", -1001);
         lawFault(x, "px(1=1)", -1001);
@@ -722,6 +727,41 @@ public final class PromiseRuns {
         due("days(1)", x.days(1), 1);
     }
 
+    /** The last MINT, STAMP and LETTER, and all four edges of the map. */
+    private static void daysAtEdges() {
+        promise = 7;
+        int[][] corners = {{0, 0}, {23, 0}, {0, 15}, {23, 15}};
+        for (int[] corner : corners) {
+            HomesickStamps x = new HomesickStamps();
+            x.mint(7, corner[0], corner[1]);
+            sheet(x, "6(8h)");
+            due("post", post(x, "7@11,7;7+47"), 2);
+            due("law", law(x, "p3(m=7&s=47&l=7);hd(1=1)"), 2);
+            int steps = Math.abs(corner[0] - 11) + Math.abs(corner[1] - 7);
+            due("tried(1, 147)", x.tried(1, 147), steps - 1);
+            due("tried(100, 27)", x.tried(100, 27), 1);
+            due("tried(100, 17)", x.tried(100, 17), place(corner[0], corner[1]));
+            due("comes", x.comes(7, place(corner[0], corner[1]), 100), steps);
+            bytes(x, 47);
+            due("stamped", x.stamped(1, place(11, 7), place(corner[0], corner[1]), 60, 1), 1);
+            bytes(x, 11, 7, (corner[0] == 0 ? 2 : 1) + (corner[1] == 0 ? 8 : 4));
+            due("printed", x.printed(1), 128);
+            due("days(100)", x.days(100), steps);
+            due("letterIs(7, 0)", x.letterIs(7, 0), place(corner[0], corner[1]));
+            due("letterIs(7, 5)", x.letterIs(7, 5), 0);
+            due("post", post(x, "7@11,7;#" + (corner[0] == 0 ? 10 : 12) + ",7"), 2);
+            due("letterIs(7, 5)", x.letterIs(7, 5), corner[0] == 0 ? -2 : 2);
+            due("letterIs(7, 6)", x.letterIs(7, 6), corner[1] == 0 ? -2 : 2);
+            due("home(7, 0)", x.home(7, 0), 7);
+            due("days(3)", x.days(3), 0);
+            due("letterIs(7, 2)", x.letterIs(7, 2), 1);
+            due("tried(1, 2)", x.tried(1, 2), 128);
+            due("letterIs(7, 4)", x.letterIs(7, 4), 47);
+            due("post", post(x, "7-47"), 1);
+            due("count(4)", x.count(4), 0);
+        }
+    }
+
     private static void lastDay() {
         promise = 7;
         HomesickStamps x = with("ab", "0@5,5;0+0", "pg(1=1)");
@@ -761,6 +801,7 @@ public final class PromiseRuns {
         due("tried(1, 12)", x.tried(1, 12), place(11, 5));
         due("tried(1, 22)", x.tried(1, 22), 2);
         due("tried(2, 22)", x.tried(2, 22), 1);
+        due("tried(2, 20)", x.tried(2, 20), 1);
         due("tried(3, 100)", x.tried(3, 100), 6);
         due("tried(3, 102)", x.tried(3, 102), 2);
         due("tried(3, 105)", x.tried(3, 105), 0);
@@ -820,7 +861,9 @@ public final class PromiseRuns {
             due("stampIs(0, " + other + ")", x.stampIs(0, other), -1);
             due("stampIs(" + other + ", 0)", x.stampIs(other, 0), -1);
         }
-        due("stampIs(3, 0)", x.stampIs(3, 0), -1);
+        for (int what = 0; what < 4; what++) {
+            due("stampIs(3, " + what + ")", x.stampIs(3, what), -1);
+        }
         promise = 9;
         // PLAIN PULLS: THE LAW, USED and PASTE aside; b is TORN, d FALSE, e not told
         x = with("2abtct2dfe2d", "1@5,6;1+0;1+2;1+3;1+4;1+6;1=50", "p0(1=1);h9(1=1)");
@@ -859,6 +902,7 @@ public final class PromiseRuns {
         due("atRest(0, 100)", x.atRest(0, 100), 5);
         due("atRest(0, 5)", x.atRest(0, 5), 5);
         due("atRest(0, 3)", x.atRest(0, 3), 3);
+        due("atRest(0, 1)", x.atRest(0, 1), 1);
         due("atRest(1, 100)", x.atRest(1, 100), 0);
         // it rests in between, but that is not the end
         law(x, "p1(t<2|t=6)");
@@ -876,6 +920,7 @@ public final class PromiseRuns {
         promise = 13;
         HomesickStamps x = with("2ab", "0@6,5;0+0;1@14,5;1+1;2@6,5;3@0,0", "p1(1=1)");
         due("meet(0, 2, 5)", x.meet(0, 2, 5), 0);
+        due("meet(0, 2, 1)", x.meet(0, 2, 1), 0);
         due("meet(0, 1, 4)", x.meet(0, 1, 4), 4);
         due("meet(1, 0, 100)", x.meet(1, 0, 100), 4);
         due("meet(0, 1, 3)", x.meet(0, 1, 3), -2);
@@ -896,6 +941,7 @@ public final class PromiseRuns {
         // right three times, then left: behind the fourth DAY at 7, 5 once more
         due("again(0, 4)", x.again(0, 4), 4);
         due("again(0, 3)", x.again(0, 3), -2);
+        due("again(0, 1)", x.again(0, 1), -2);
         due("again(1, 100)", x.again(1, 100), -2);
         // it stays two DAYS and goes on: that is no return
         law(x, "p1(m=0&t<2);p1(m=0&t>3)");
@@ -1020,6 +1066,7 @@ public final class PromiseRuns {
         due("none", hang(x, new int[] {0, 1}, place(5, 5), 1), -2);
         due("a FALSE one", hang(x, new int[] {0, 6}, place(5, 5), 0), 1);
         due("a FALSE one", hang(x, new int[] {0, 6}, place(5, 5), 1), 2);
+        due("a FALSE one", hang(x, new int[] {6}, place(5, 5), 1), 1);
         // at a: both a, and c (1 up) never holds d (2 down); c told twice does
         due("at a MINT", hang(x, new int[] {0, 3, 3, 4}, place(10, 5), 0), 3);
         due("fewest", hang(x, new int[] {4, 3, 3}, place(10, 5), 1), 7);
@@ -1168,6 +1215,7 @@ public final class PromiseRuns {
         due("mule 0", mule(1, 0, 3, 5, 2), 0);
         due("mule 0", mule(2, 0, 3, 5, 2), 0);
         due("mule 1", mule(1, 1, 3, 5, 2), 4);
+        due("mule of one", mule(1, 1, 3), 1);
         due("mule 10", mule(2, 10, 3, 5, 2), 10);
         for (int what = 0; what < 3; what++) {
             due("mule 11", mule(what, 11, 3, 5, 2), -2);
@@ -1274,6 +1322,9 @@ public final class PromiseRuns {
         exchanged("later ones", 4, new int[] {1, 0, 2, 3, 0, 1, 2, 3, 0, 3, 2, 1, 0, 1, 2, 3}, 1, 0, 3, 2);
         exchanged("six", 6, new int[] {5, 4, 3, 2, 1, 0, 0, 1, 2, 3, 4, 5, 1, 2, 0, 3, 4, 5, 2, 1, 0, 3, 4, 5,
             3, 2, 1, 0, 4, 5, 4, 3, 2, 1, 0, 5}, 5, 0, 1, 2, 3, 4);
+        // all like 0's best and then 1's, so that later ones get what is left
+        exchanged("what is left", 4, new int[] {0, 1, 2, 3, 0, 1, 2, 3, 0, 1, 3, 2, 0, 1, 2, 3}, 0, 1, 3, 2);
+        exchanged("the third he likes", 3, new int[] {0, 2, 1, 0, 2, 1, 0, 2, 1}, 0, 1, 2);
         exchanged("one named twice", 2, new int[] {1, 1, 0, 1}, -2, -2);
         exchanged("one that is not there", 2, new int[] {1, 0, 2, 0}, -2, -2);
         HomesickStamps x = new HomesickStamps();
