@@ -458,6 +458,7 @@ public final class HomesickStamps {
             return false;
         }
         now.copyFrom(kept);
+        // the SHEET may have fewer STAMPS by now than were KEPT
         now.peelFrom(republic.stamps());
         return true;
     }
@@ -1059,6 +1060,7 @@ public final class HomesickStamps {
         static final int MOST_VALUE = 600;
         static final int COLLECTORS = 6;
 
+        private static final int CANT_BE_FRANKED = -3;
         private static final int TOO_MANY = 1000;
 
         private final Tape tape;
@@ -1148,7 +1150,7 @@ public final class HomesickStamps {
 
         int stampsFor(int value) {
             boolean can = within(value, 0, MOST_VALUE) && fewest[value] < TOO_MANY;
-            return can ? fewest[value] : NO_SUCH_STAMP;
+            return can ? fewest[value] : CANT_BE_FRANKED;
         }
 
         boolean exchangeStamps(int n) {
