@@ -856,6 +856,7 @@ public final class HomesickStamps {
     private static final class Clerk {
         private final Republic republic;
         private final int[] facts = new int[Law.FACTS];
+        private final int[] moreUsed = new int[STAMPS];
         private int acrossSum = 0;
         private int alongSum = 0;
         private int fallen = 0;
@@ -897,11 +898,9 @@ public final class HomesickStamps {
                 }
             }
             int steps = step(letters, l);
-            // h is asked where the LETTER lies now: it gets used to the PLACE to which it came
             for (int s = 0; s < STAMPS; s++) {
                 if (letters.isOn(s, l) && republic.isPulling(s)) {
-                    learn(letters, s, l);
-                    letters.useMore(s, rules.worth(Law.USE, facts));
+                    letters.useMore(s, moreUsed[s]);
                 }
             }
             return steps;
@@ -926,6 +925,10 @@ public final class HomesickStamps {
             int grains = rules.worth(Law.PULL, facts);
             acrossSum += grains * republic.across(s, letters.placeOf(l));
             alongSum += grains * republic.along(s, letters.placeOf(l));
+            // h is asked with x and p, ahead of the step, though it counts behind it
+            if (within(s, 0, STAMPS - 1)) {
+                moreUsed[s] = rules.worth(Law.USE, facts);
+            }
         }
 
         private int step(Letters letters, int l) {

@@ -1016,6 +1016,7 @@ public final class OracleRuns {
         int letterDay(State state, int l, int w) {
             int across = 0;
             int along = 0;
+            int[] more = new int[48];
             for (int s : new ArrayList<>(state.on.get(l))) {
                 int m = mints[s];
                 if (!mintTold[m]) {
@@ -1027,15 +1028,14 @@ public final class OracleRuns {
                     fell++;
                     continue;
                 }
+                more[s] = worth('h', facts);
                 int p = worth('p', facts);
                 across += p * Integer.signum(mintX[m] - state.x[l]);
                 along += p * Integer.signum(mintY[m] - state.y[l]);
             }
             int steps = state.inWall[l] ? 0 : go(state, l, across, along);
             for (int s : state.on.get(l)) {
-                if (mintTold[mints[s]]) {
-                    state.used[s] = Math.min(999, state.used[s] + worth('h', facts(state, s, l, w)));
-                }
+                state.used[s] = Math.min(999, state.used[s] + more[s]);
             }
             return steps;
         }

@@ -705,17 +705,30 @@ public final class PromiseRuns {
         x = with("a", "0@5,5;0+0;0=99", "hu+1(1=1)");
         x.days(4);
         due("stampIs(0, 2)", x.stampIs(0, 2), 15);
-        // behind the step: h is asked where it lies then
-        x = with("a", "0@8,5;0+0", "p1(1=1);h1(d=0);h5(d=1)");
+        // h is asked with x and p, where it lies ahead of the step
+        x = with("a", "0@8,5;0+0", "p1(1=1);h1(d=0);h5(d=1);h20(d=2)");
+        x.days(1);
+        due("letterIs(0, 0)", x.letterIs(0, 0), place(9, 5));
+        due("stampIs(0, 2)", x.stampIs(0, 2), 20);
+        due("tried(1, 100)", x.tried(1, 100), 25);
+        x.days(1);
+        due("stampIs(0, 2)", x.stampIs(0, 2), 25);
+        x.days(1);
+        due("stampIs(0, 2)", x.stampIs(0, 2), 26);
+        // and with the n of x and p: those behind that fall off in that DAY count, those ahead do not
+        x = with("3a", "0@5,5;0+0;0+1;0+2", "x(s=1);hn(1=1)");
+        x.days(1);
+        due("stampIs(0, 2)", x.stampIs(0, 2), 3);
+        due("stampIs(1, 2)", x.stampIs(1, 2), 0);
+        due("stampIs(2, 2)", x.stampIs(2, 2), 2);
+        // what h was for another LETTER's STAMP, or in a DAY ahead, does not stay
+        x = with("2a", "0@5,5;0+0;1@2,5;1+1", "hd(l=0&t=0);h1(t=1)");
         x.days(1);
         due("stampIs(0, 2)", x.stampIs(0, 2), 5);
-        x.days(1);
+        due("stampIs(1, 2)", x.stampIs(1, 2), 0);
+        x.days(2);
         due("stampIs(0, 2)", x.stampIs(0, 2), 6);
-        // and with as many STAMPS as are on it then
-        x = with("3a", "0@5,5;0+0;0+1;0+2", "x(s=2);hn(1=1)");
-        x.days(1);
-        due("stampIs(0, 2)", x.stampIs(0, 2), 2);
-        due("stampIs(2, 2)", x.stampIs(2, 2), 0);
+        due("stampIs(1, 2)", x.stampIs(1, 2), 1);
         // the more USED the less it pulls
         x = with("a", "0@0,5;0+0;0=2", "p5-u(1=1);h1(1=1)");
         due("days(20)", x.days(20), 3);
@@ -738,7 +751,7 @@ public final class PromiseRuns {
             due("post", post(x, "7@11,7;7+47"), 2);
             due("law", law(x, "p3(m=7&s=47&l=7);hd(1=1)"), 2);
             int steps = Math.abs(corner[0] - 11) + Math.abs(corner[1] - 7);
-            due("tried(1, 147)", x.tried(1, 147), steps - 1);
+            due("tried(1, 147)", x.tried(1, 147), steps);
             due("tried(100, 27)", x.tried(100, 27), 1);
             due("tried(100, 17)", x.tried(100, 17), place(corner[0], corner[1]));
             due("comes", x.comes(7, place(corner[0], corner[1]), 100), steps);
