@@ -722,13 +722,20 @@ public final class PromiseRuns {
         due("stampIs(1, 2)", x.stampIs(1, 2), 0);
         due("stampIs(2, 2)", x.stampIs(2, 2), 2);
         // what h was for another LETTER's STAMP, or in a DAY ahead, does not stay
-        x = with("2a", "0@5,5;0+0;1@2,5;1+1", "hd(l=0&t=0);h1(t=1)");
+        x = with("2a", "0@5,5;0+0;1@2,5;1+1", "hd(l=0&t=0);h1(t=1);h9(t=2)");
         x.days(1);
         due("stampIs(0, 2)", x.stampIs(0, 2), 5);
         due("stampIs(1, 2)", x.stampIs(1, 2), 0);
-        x.days(2);
+        x.days(1);
         due("stampIs(0, 2)", x.stampIs(0, 2), 6);
         due("stampIs(1, 2)", x.stampIs(1, 2), 1);
+        x.days(1);
+        due("stampIs(0, 2)", x.stampIs(0, 2), 15);
+        // nor with a STAMP of a new SHEET that is not asked
+        sheet(x, "e");
+        post(x, "0+0");
+        x.days(2);
+        due("stampIs(0, 2)", x.stampIs(0, 2), 0);
         // the more USED the less it pulls
         x = with("a", "0@0,5;0+0;0=2", "p5-u(1=1);h1(1=1)");
         due("days(20)", x.days(20), 3);
