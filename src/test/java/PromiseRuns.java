@@ -1,19 +1,5 @@
 /** For each promise of the document: ordinary inputs, the edges that it names, wrong inputs. */
-public final class PromiseRuns {
-    private static int promise = 0;
-    private static int wrong = 0;
-
-    private static void due(String call, long got, long want) {
-        if (got != want) {
-            wrong++;
-            System.out.println("promise " + promise + ": " + call + " answered " + got + ", due is " + want);
-        }
-    }
-
-    private static void due(String call, boolean got, boolean want) {
-        due(call, got ? 1 : 0, want ? 1 : 0);
-    }
-
+public final class PromiseRuns extends Bench {
     public static void main(String[] args) {
         newObject();
         mint();
@@ -54,68 +40,11 @@ public final class PromiseRuns {
         undoWithOtherSheet();
         check();
         count();
-        System.out.println(wrong == 0 ? "all answers are as due" : wrong + " answers are not as due");
-        if (wrong != 0) {
-            System.exit(1);
-        }
-    }
-
-    /** Feeds bytes, behind them zeros up to the next twenty. */
-    private static void bytes(HomesickStamps x, int... values) {
-        for (int i = 0; i < values.length; i += 20) {
-            int[] w = new int[5];
-            for (int k = 0; k < 20; k++) {
-                w[k / 4] = w[k / 4] << 8 | (i + k < values.length ? values[i + k] : 0);
-            }
-            x.feed(w[0], w[1], w[2], w[3], w[4]);
-        }
-    }
-
-    private static int text(HomesickStamps x, String text) {
-        int[] values = new int[text.length()];
-        for (int i = 0; i < values.length; i++) {
-            values[i] = text.charAt(i);
-        }
-        bytes(x, values);
-        return values.length;
-    }
-
-    private static int law(HomesickStamps x, String text) {
-        return x.law(text(x, text));
-    }
-
-    private static int sheet(HomesickStamps x, String text) {
-        return x.sheet(text(x, text));
-    }
-
-    private static int post(HomesickStamps x, String text) {
-        return x.post(text(x, text));
-    }
-
-    /** MINTS: a in the middle (10, 5), b left of it (0, 5), c above (10, 0), d below (10, 10). */
-    private static HomesickStamps withMints() {
-        HomesickStamps x = new HomesickStamps();
-        x.mint(0, 10, 5);
-        x.mint(1, 0, 5);
-        x.mint(2, 10, 0);
-        x.mint(3, 10, 10);
-        return x;
-    }
-
-    private static HomesickStamps with(String sheet, String post, String law) {
-        HomesickStamps x = withMints();
-        due("sheet " + sheet, sheet(x, sheet) > 0, true);
-        due("post " + post, post(x, post) > 0, true);
-        due("law " + law, law(x, law) > 0, true);
-        return x;
-    }
-
-    private static int place(int x, int y) {
-        return 24 * y + x;
+        finish();
     }
 
     private static void newObject() {
-        promise = 1;
+        promise(1);
         HomesickStamps x = new HomesickStamps();
         for (int what = 0; what < 8; what++) {
             due("count(" + what + ")", x.count(what), 0);
@@ -128,7 +57,7 @@ public final class PromiseRuns {
     }
 
     private static void mint() {
-        promise = 2;
+        promise(2);
         HomesickStamps x = new HomesickStamps();
         due("mint(0, 0, 0)", x.mint(0, 0, 0), true);
         due("mint(7, 23, 15)", x.mint(7, 23, 15), true);
@@ -149,7 +78,7 @@ public final class PromiseRuns {
     }
 
     private static void feed() {
-        promise = 3;
+        promise(3);
         HomesickStamps x = new HomesickStamps();
         due("feed", x.feed(0x80020103, 0, 0, 0, 0xFF), 20);
         due("mule(4, 3, 1)", x.mule(4, 3, 1), 8);
@@ -177,7 +106,7 @@ public final class PromiseRuns {
     }
 
     private static void lawFaults() {
-        promise = 4;
+        promise(4);
         HomesickStamps x = new HomesickStamps();
         lawFault(x, "p5(s=0);x(u>1);h3(d>1)", 3);
         String[] first = {"q", "P", "(", "1", " p1(1=1)", ";", "~"};
@@ -232,7 +161,7 @@ public final class PromiseRuns {
     }
 
     private static void lawLimits() {
-        promise = 4;
+        promise(4);
         HomesickStamps x = new HomesickStamps();
         due("law(1)", x.law(1), -1);
         lawFault(x, "p12345(1=1)", 1);
@@ -282,25 +211,8 @@ public final class PromiseRuns {
         due("law(7)", x.law(7), 1);
     }
 
-    /** What h comes to for STAMP 1 (of MINT d, TORN) on LETTER 2 at 7, 12: d is 5, n 2, w 2 (the first DRAW). */
-    private static void reckons(String e, int want) {
-        HomesickStamps x = withMints();
-        sheet(x, "adtb");
-        post(x, "2@7,12;2+1;2+2;2=99");
-        due("law h" + e, law(x, "h" + e + "(1=1)"), 1);
-        due("h" + e, x.tried(1, 101), want);
-    }
-
-    private static void holds(String c, boolean want) {
-        HomesickStamps x = withMints();
-        sheet(x, "adtb");
-        post(x, "2@7,12;2+1;2+2;2=99");
-        due("law h1(" + c + ")", law(x, "h1(" + c + ");h2(1=1)"), 2);
-        due("h1(" + c + ")", x.tried(1, 101), want ? 1 : 2);
-    }
-
     private static void lawReckons() {
-        promise = 4;
+        promise(4);
         reckons("s", 1);
         reckons("m", 3);
         reckons("g", 1);
@@ -363,7 +275,7 @@ public final class PromiseRuns {
     }
 
     private static void lawChooses() {
-        promise = 4;
+        promise(4);
         HomesickStamps x = with("3a", "0@5,5;0+0;0+1;0+2;0=99", "h5(s=1);h7(s<2);p1(1=1)");
         due("tried(1, 100)", x.tried(1, 100), 7);
         due("tried(1, 101)", x.tried(1, 101), 5);
@@ -386,7 +298,7 @@ public final class PromiseRuns {
     }
 
     private static void sheet() {
-        promise = 5;
+        promise(5);
         HomesickStamps x = new HomesickStamps();
         due("sheet(1)", x.sheet(1), -1);
         due("sheet", sheet(x, "abtcf2h"), 5);
@@ -434,7 +346,7 @@ public final class PromiseRuns {
     }
 
     private static void sheetFaults() {
-        promise = 5;
+        promise(5);
         sheetFault("i", -1000);
         sheetFault("t", -1000);
         sheetFault("A", -1000);
@@ -479,7 +391,7 @@ public final class PromiseRuns {
     }
 
     private static void postLines() {
-        promise = 6;
+        promise(6);
         HomesickStamps x = new HomesickStamps();
         due("post(1)", x.post(1), -1);
         sheet(x, "9a9b");
@@ -537,7 +449,7 @@ public final class PromiseRuns {
     }
 
     private static void postFaults() {
-        promise = 6;
+        promise(6);
         postFault("8=1", -1000);
         postFault(";", -1000);
         postFault(" 0=1", -1000);
@@ -593,7 +505,7 @@ public final class PromiseRuns {
     }
 
     private static void days() {
-        promise = 7;
+        promise(7);
         HomesickStamps x = with("2abct2d", "0@5,5;0+0", "pg(1=1)");
         due("days(0)", x.days(0), -1);
         due("days(101)", x.days(101), -1);
@@ -659,7 +571,7 @@ public final class PromiseRuns {
     }
 
     private static void daysFall() {
-        promise = 7;
+        promise(7);
         // n is less for those behind a STAMP that has fallen off
         HomesickStamps x = with("4a", "0@5,5;0+0;0+1;0+2;0+3", "x(n>2);p1(1=1)");
         due("days(1)", x.days(1), 1);
@@ -688,7 +600,7 @@ public final class PromiseRuns {
     }
 
     private static void daysUse() {
-        promise = 7;
+        promise(7);
         // USED is 999 at most
         HomesickStamps x = with("2a", "0@5,5;0+0;0=99", "h99(1=1)");
         x.days(10);
@@ -749,7 +661,7 @@ public final class PromiseRuns {
 
     /** The last MINT, STAMP and LETTER, and all four edges of the map. */
     private static void daysAtEdges() {
-        promise = 7;
+        promise(7);
         int[][] corners = {{0, 0}, {23, 0}, {0, 15}, {23, 15}};
         for (int[] corner : corners) {
             HomesickStamps x = new HomesickStamps();
@@ -783,7 +695,7 @@ public final class PromiseRuns {
     }
 
     private static void lastDay() {
-        promise = 7;
+        promise(7);
         HomesickStamps x = with("ab", "0@5,5;0+0", "pg(1=1)");
         for (int i = 0; i < 99; i++) {
             x.days(100);
@@ -799,7 +711,7 @@ public final class PromiseRuns {
         due("days(1)", x.days(1), 0);
         due("count(0)", x.count(0), 9999);
         due("count(8)", x.count(8), draw);
-        promise = 8;
+        promise(8);
         due("tried(5, 0)", x.tried(5, 0), 0);
         due("tried(5, 10)", x.tried(5, 10), place(7, 5));
         due("comes(0, 128, 5)", x.comes(0, place(8, 5), 5), -2);
@@ -808,7 +720,7 @@ public final class PromiseRuns {
     }
 
     private static void tried() {
-        promise = 8;
+        promise(8);
         HomesickStamps x = with("2abct2d", "0@5,5;0+0;2@12,5;2+1;2+2;#8,5", "p9(m=0);p1(1=1);h2(1=1);x(s=2&t=1)");
         due("tried(1, 0)", x.tried(1, 0), 2);
         due("tried(4, 0)", x.tried(4, 0), 4);
@@ -847,7 +759,7 @@ public final class PromiseRuns {
     }
 
     private static void letterIs() {
-        promise = 9;
+        promise(9);
         HomesickStamps x = withMints();
         sheet(x, "2abtct2dfe");
         due("letterIs(1, 0)", x.letterIs(1, 0), -1000);
@@ -867,7 +779,7 @@ public final class PromiseRuns {
     }
 
     private static void stampIs() {
-        promise = 10;
+        promise(10);
         HomesickStamps x = with("abtdf", "3@5,5;3+1", "h4(1=1)");
         x.days(2);
         int[][] all = {{0, 2, 0, -2}, {1, 1, 8, 3}, {3, 0, 0, -2}};
@@ -884,7 +796,7 @@ public final class PromiseRuns {
         for (int what = 0; what < 4; what++) {
             due("stampIs(3, " + what + ")", x.stampIs(3, what), -1);
         }
-        promise = 9;
+        promise(9);
         // PLAIN PULLS: THE LAW, USED and PASTE aside; b is TORN, d FALSE, e not told
         x = with("2abtct2dfe2d", "1@5,6;1+0;1+2;1+3;1+4;1+6;1=50", "p0(1=1);h9(1=1)");
         x.days(3);
@@ -897,7 +809,7 @@ public final class PromiseRuns {
     }
 
     private static void comes() {
-        promise = 11;
+        promise(11);
         HomesickStamps x = with("ab", "0@5,5;0+0;1@7,7", "p1(1=1)");
         due("comes now", x.comes(0, place(5, 5), 1), 0);
         due("comes", x.comes(0, place(7, 5), 2), 2);
@@ -917,7 +829,7 @@ public final class PromiseRuns {
     }
 
     private static void atRest() {
-        promise = 12;
+        promise(12);
         HomesickStamps x = with("a", "0@5,5;0+0;1@3,3", "p1(1=1)");
         due("atRest(0, 100)", x.atRest(0, 100), 5);
         due("atRest(0, 5)", x.atRest(0, 5), 5);
@@ -937,7 +849,7 @@ public final class PromiseRuns {
     }
 
     private static void meet() {
-        promise = 13;
+        promise(13);
         HomesickStamps x = with("2ab", "0@6,5;0+0;1@14,5;1+1;2@6,5;3@0,0", "p1(1=1)");
         due("meet(0, 2, 5)", x.meet(0, 2, 5), 0);
         due("meet(0, 2, 1)", x.meet(0, 2, 1), 0);
@@ -956,7 +868,7 @@ public final class PromiseRuns {
     }
 
     private static void again() {
-        promise = 14;
+        promise(14);
         HomesickStamps x = with("ab", "0@5,5;0+0;0+1;1@1,1", "p2(m=0&t<3);p1(1=1&m=1)");
         // right three times, then left: behind the fourth DAY at 7, 5 once more
         due("again(0, 4)", x.again(0, 4), 4);
@@ -978,7 +890,7 @@ public final class PromiseRuns {
     }
 
     private static void home() {
-        promise = 15;
+        promise(15);
         HomesickStamps x = withMints();
         sheet(x, "3at2b3dfhh");
         post(x, "0@5,5;1@1,1;1+5;1+6");
@@ -1004,7 +916,7 @@ public final class PromiseRuns {
     }
 
     private static void lying() {
-        promise = 16;
+        promise(16);
         HomesickStamps x = new HomesickStamps();
         due("lying(0)", x.lying(0), 0);
         post(x, "0@0,0;3@0,0;7@23,15;2@1,1");
@@ -1022,7 +934,7 @@ public final class PromiseRuns {
     }
 
     private static void stamped() {
-        promise = 17;
+        promise(17);
         HomesickStamps x = withMints();
         sheet(x, "2abct2dafe");
         due("stamped(1) of none", x.stamped(1, 0, 0, 0, 0), -1);
@@ -1075,7 +987,7 @@ public final class PromiseRuns {
     }
 
     private static void hang() {
-        promise = 18;
+        promise(18);
         HomesickStamps x = withMints();
         sheet(x, "2abct2dafe");
         int[] five = {0, 1, 2, 3, 4};
@@ -1109,7 +1021,7 @@ public final class PromiseRuns {
     }
 
     private static void falseOnes() {
-        promise = 19;
+        promise(19);
         HomesickStamps x = withMints();
         sheet(x, "2abct2dafe");
         int here = place(5, 5);
@@ -1150,7 +1062,7 @@ public final class PromiseRuns {
     }
 
     private static void printed() {
-        promise = 20;
+        promise(20);
         HomesickStamps x = withMints();
         due("printed(1) of none", x.printed(1), -1);
         due("right", printed(x, 5, 5, 1), 1);
@@ -1193,7 +1105,7 @@ public final class PromiseRuns {
     }
 
     private static void ship() {
-        promise = 21;
+        promise(21);
         due("ship 3 5 2", ship(0, 3, 5, 2), 0);
         due("ship 3 5 2", ship(1, 3, 5, 2), 5);
         due("ship 7", ship(0, 7), 7);
@@ -1226,7 +1138,7 @@ public final class PromiseRuns {
     }
 
     private static void mule() {
-        promise = 22;
+        promise(22);
         due("mule 7", mule(0, 7, 3, 5, 2), 2);
         due("mule 7", mule(1, 7, 3, 5, 2), 6);
         due("mule 7", mule(2, 7, 3, 5, 2), 7);
@@ -1269,7 +1181,7 @@ public final class PromiseRuns {
     }
 
     private static void marks() {
-        promise = 23;
+        promise(23);
         due("marks 1 4", marks(3, 1, 4), 6);
         due("marks 1 3", marks(1, 1, 3), 1);
         due("marks 1 3", marks(3, 1, 3), 7);
@@ -1301,7 +1213,7 @@ public final class PromiseRuns {
     }
 
     private static void franked() {
-        promise = 24;
+        promise(24);
         due("franked 7", franked(7, 1, 4), 4);
         due("franked 8", franked(8, 1, 4), 2);
         due("franked 6", franked(6, 1, 3, 4), 2);
@@ -1332,7 +1244,7 @@ public final class PromiseRuns {
     }
 
     private static void exchange() {
-        promise = 25;
+        promise(25);
         exchanged("two that change", 2, new int[] {1, 0, 0, 1}, 1, 0);
         exchanged("one keeps his own", 2, new int[] {1, 0, 1, 0}, 0, 1);
         exchanged("a ring of three", 3, new int[] {1, 0, 2, 2, 1, 0, 0, 2, 1}, 1, 2, 0);
@@ -1360,7 +1272,7 @@ public final class PromiseRuns {
     }
 
     private static void seed() {
-        promise = 26;
+        promise(26);
         HomesickStamps x = with("a", "0@5,5;0+0", "p1(w=9)");
         due("seed(0)", x.seed(0), true);
         due("count(8)", x.count(8), 0);
@@ -1376,7 +1288,7 @@ public final class PromiseRuns {
     }
 
     private static void keepAndUndo() {
-        promise = 27;
+        promise(27);
         HomesickStamps x = with("2ab", "0@5,5;0+0;0=1;#7,5", "p2(1=1);h3(1=1);x(t=6)");
         due("days(2)", x.days(2), 1);
         due("keep()", x.keep(), 2);
@@ -1385,7 +1297,7 @@ public final class PromiseRuns {
         law(x, "p1(1=1)");
         x.seed(77);
         due("days(9)", x.days(9), 9);
-        promise = 28;
+        promise(28);
         due("undo()", x.undo(), true);
         due("count(0)", x.count(0), 2);
         due("count(8)", x.count(8), (25173L * 39022 + 13849) % 65536);
@@ -1413,7 +1325,7 @@ public final class PromiseRuns {
     }
 
     private static void undoWithOtherSheet() {
-        promise = 28;
+        promise(28);
         HomesickStamps x = with("3a", "0@5,5;0+0;0+2", "h3(1=1)");
         x.days(1);
         x.keep();
@@ -1447,7 +1359,7 @@ public final class PromiseRuns {
     }
 
     private static void check() {
-        promise = 29;
+        promise(29);
         HomesickStamps x = new HomesickStamps();
         due("check(0)", x.check(0), -1);
         due("check(1)", x.check(1), -2);
@@ -1472,7 +1384,7 @@ public final class PromiseRuns {
     }
 
     private static void count() {
-        promise = 30;
+        promise(30);
         HomesickStamps x = with("2ab", "0@5,5;4@6,6;0+0;4+2;#1,1;#2,2;#3,3", "p1(1=1);x(1=2)");
         x.days(3);
         x.feed(1, 2, 3, 4, 5);
