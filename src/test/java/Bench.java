@@ -2,7 +2,7 @@ import java.io.IOException;
 import java.nio.file.Files;
 import java.nio.file.Path;
 
-/** What the tests share: TEXTS for the tape, objects to begin with, and what is said of an answer that is not as due. */
+/** What the tests share: TEXTS for the tape, objects to begin with, what is said of an answer that is not as due. */
 abstract class Bench {
     /** A call on an object; a boolean counts 1 or 0. */
     interface Call {

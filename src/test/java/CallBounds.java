@@ -11,8 +11,9 @@ public final class CallBounds extends Bench {
         newObject();
         mint();
         feed();
-        texts();
-        textsThatAreTooShort();
+        law();
+        sheet();
+        post();
         days();
         tried();
         letterIs();
@@ -37,6 +38,8 @@ public final class CallBounds extends Bench {
         check();
         count();
         refusedOnesTogether();
+        lastCall();
+        itsOwnMemory();
         finish();
     }
 
@@ -102,29 +105,74 @@ public final class CallBounds extends Bench {
         due("a FAULT at the first", x.sheet(20), -1000);
     }
 
-    private static void texts() {
-        sentence("NONE: no such n, it has not so many (the tape stays)");
-        bounds("law(n)", 1, 240, -1, HomesickStamps::law, FULL);
-        bounds("sheet(n)", 1, 60, -1, HomesickStamps::sheet, FULL);
-        bounds("post(n)", 1, 120, -1, HomesickStamps::post, FULL);
+    /** Of this tape the first n bytes have that FAULT: it is empty then, and all else stays. */
+    private static void faults(String call, int want, Call asked, String tape) {
+        changesNothing(call + " " + tape, want, asked, bytesOf(tape));
     }
 
-    private static void textsThatAreTooShort() {
-        sentence("it has not so many (the tape stays)");
+    private static void law() {
+        sentence("THE LAW by the first n bytes of the tape (1 to 240; empty then), in place of the one before: how many"
+            + " RULES; a FAULT: -1000 times its number, less its place (the one before stays); NONE: no such n, it has"
+            + " not so many (the tape stays).");
+        bounds("law(n)", 1, 240, -1, HomesickStamps::law, FULL);
         bounds("law(n) of 20", 1, 20, -1, HomesickStamps::law, 1);
-        bounds("sheet(n) of 20", 1, 20, -1, HomesickStamps::sheet, 1);
-        bounds("post(n) of 20", 1, 20, -1, HomesickStamps::post, 1);
         bounds("law(n) of 40", 1, 40, -1, HomesickStamps::law, FORTY);
         refused("law(1) of none", -1, x -> x.law(1));
+        faults("law(7)", -1006, x -> x.law(7), "h9(1=1;");
+        faults("law(13)", -1013, x -> x.law(13), "h9(1=1);x(1=1)");
+        faults("law(9)", -2006, x -> x.law(9), "p123456(1=1)");
+        faults("law(9)", -5007, x -> x.law(9), "p[[[[[[[1]]]]]]](1=1)");
+        faults("law(120)", -4112, x -> x.law(120), "x(1=1);".repeat(17) + "x");
+        // only the first n count; what stands behind them is gone, too
+        HomesickStamps x = town(bytesOf("h7(1=1);h8(1=1);p9"));
+        due("law(7)", x.law(7), 1);
+        due("count(6)", x.count(6), 1);
+        due("count(7)", x.count(7), 0);
+        due("tried(1, 100)", x.tried(1, 100), 25);
+        due("tried(1, 0)", x.tried(1, 0), 0);
+        due("law", law(x, "p9(1=1)"), 1);
+        due("tried(1, 100)", x.tried(1, 100), 18);
+        due("tried(1, 0)", x.tried(1, 0), 1);
+    }
+
+    private static void sheet() {
+        sentence("A SHEET by the first n bytes of the tape (1 to 60; empty then): how many STAMPS; a FAULT (all stays);"
+            + " NONE: as above.");
+        bounds("sheet(n)", 1, 60, -1, HomesickStamps::sheet, FULL);
+        bounds("sheet(n) of 20", 1, 20, -1, HomesickStamps::sheet, 1);
+        bounds("sheet(n) of 40", 1, 40, -1, HomesickStamps::sheet, FORTY);
         refused("sheet(1) of none", -1, x -> x.sheet(1));
+        faults("sheet(6)", -1006, x -> x.sheet(6), "5(3abt");
+        faults("sheet(3)", -5002, x -> x.sheet(3), "(((a)))");
+        faults("sheet(5)", -6000, x -> x.sheet(5), "7(7a)");
+        HomesickStamps x = town(bytesOf("3atb2"));
+        due("sheet(2)", x.sheet(2), 3);
+        due("count(3)", x.count(3), 3);
+        due("count(7)", x.count(7), 0);
+        due("stampIs(2, 1)", x.stampIs(2, 1), 2);
+        due("stampIs(3, 1)", x.stampIs(3, 1), -1);
+    }
+
+    private static void post() {
+        sentence("A POST by the first n bytes of the tape (1 to 120; empty then): how many LINES; a FAULT; NONE: as"
+            + " above.");
+        bounds("post(n)", 1, 120, -1, HomesickStamps::post, FULL);
+        bounds("post(n) of 20", 1, 20, -1, HomesickStamps::post, 1);
+        bounds("post(n) of 40", 1, 40, -1, HomesickStamps::post, FORTY);
         refused("post(1) of none", -1, x -> x.post(1));
-        // a FAULT empties the tape, and all else stays
-        changesNothing("law(20)", -1000, x -> x.law(20), FORTY);
-        changesNothing("sheet(20)", -1000, x -> x.sheet(20), FORTY);
-        changesNothing("post(20)", -1000, x -> x.post(20), FORTY);
-        changesNothing("a FAULT at the end of a law", -1006, x -> x.law(7), bytesOf("h9(1=1;"));
-        changesNothing("a FAULT at the end of a sheet", -1006, x -> x.sheet(6), bytesOf("5(3abt"));
-        changesNothing("a FAULT at the end of a post", -1006, x -> x.post(6), bytesOf("0@1,1;"));
+        faults("post(6)", -1006, x -> x.post(6), "0@1,1;0=5");
+        faults("post(5)", -2004, x -> x.post(5), "0=100");
+        faults("post(6)", -3002, x -> x.post(6), "0@24,1");
+        faults("post(81)", -4080, x -> x.post(81), "0=9;".repeat(20) + "0");
+        faults("post(9)", -7008, x -> x.post(9), "1@1,1;1+6");
+        faults("post(3)", -7000, x -> x.post(3), "1=6");
+        HomesickStamps x = town(bytesOf("0=56;0=7;9"));
+        due("post(3)", x.post(3), 1);
+        due("count(7)", x.count(7), 0);
+        due("letterIs(0, 1)", x.letterIs(0, 1), 5);
+        text(x, "0=56;0=7;9");
+        due("post(8)", x.post(8), 2);
+        due("letterIs(0, 1)", x.letterIs(0, 1), 7);
     }
 
     private static void days() {
@@ -138,9 +186,9 @@ public final class CallBounds extends Bench {
     }
 
     private static void tried() {
-        sentence("what 0 steps of all, 1 STAMPS that fall off, 2 LETTERS IN A WALL then (bits), 10 + l the PLACE (24 Y"
-            + " and X) of told LETTER l then, 20 + l how many STAMPS are on it then, 100 + s USED of STAMP s then;"
-            + " NONE: no such ones.");
+        sentence("DAYS (1 to 100; as many as can) that are tried, what 0 steps of all, 1 STAMPS that fall off, 2"
+            + " LETTERS IN A WALL then (bits), 10 + l the PLACE (24 Y and X) of told LETTER l then, 20 + l how many"
+            + " STAMPS are on it then, 100 + s USED of STAMP s then; NONE: no such ones.");
         bounds("tried(n, 0)", 1, 100, -1, (x, n) -> x.tried(n, 0), 1);
         bounds("tried(9, what)", 0, 2, -1, (x, what) -> x.tried(9, what), 1);
         bounds("tried(9, 10 + l)", 10, 17, -1, (x, what) -> x.tried(9, what), 1);
@@ -153,8 +201,9 @@ public final class CallBounds extends Bench {
     }
 
     private static void letterIs() {
-        sentence("3 how many STAMPS, 4 the lowest one (-2: none), 5, 6 PLAIN PULLS of its STAMPS across, along (right,"
-            + " down more; told MINTS alone); -1000: no such ones.");
+        sentence("Of a told LETTER, what 0 PLACE (24 Y and X), 1 PASTE, 2 IN A WALL (1, 0), 3 how many STAMPS, 4 the"
+            + " lowest one (-2: none), 5, 6 PLAIN PULLS of its STAMPS across, along (right, down more; told MINTS"
+            + " alone); -1000: no such ones.");
         bounds("letterIs(l, 0)", 0, 7, -1000, (x, l) -> x.letterIs(l, 0), 1);
         bounds("letterIs(0, what)", 0, 6, -1000, (x, what) -> x.letterIs(0, what), 1);
         int[] notTold = {1, 2, 4, 5, 6};
@@ -303,8 +352,9 @@ public final class CallBounds extends Bench {
     }
 
     private static void mule() {
-        sentence("A MULE by the first n bytes of the tape (n 1 to 12; empty then), so much (0 to 3060), what 0 how many,"
-            + " 1 which (bits), 2 grains; -2: it can't be; NONE: no such ones, it has not so many (the tape stays).");
+        sentence("A MULE by the first n bytes of the tape (n 1 to 12; empty then), so much (0 to 3060), what 0 how"
+            + " many, 1 which (bits), 2 grains; -2: it can't be; NONE: no such ones, it has not so many (the tape"
+            + " stays).");
         bounds("mule(n, 9, 0)", 1, 12, -1, (x, n) -> x.mule(n, 9, 0), FORTY);
         bounds("mule(2, much, 0)", 0, 3060, -1, (x, much) -> x.mule(2, much, 0), FORTY);
         bounds("mule(2, 9, what)", 0, 2, -1, (x, what) -> x.mule(2, 9, what), FORTY);
@@ -314,8 +364,8 @@ public final class CallBounds extends Bench {
     }
 
     private static void marks() {
-        sentence("MARKS by the first n bytes of the tape (values; n 1 to 5; empty then), at most k (1 to 6): up to which"
-            + " value; -2: a value of 0, above 100; NONE: no such ones, it has not so many (the tape stays).");
+        sentence("MARKS by the first n bytes of the tape (values; n 1 to 5; empty then), at most k (1 to 6): up to"
+            + " which value; -2: a value of 0, above 100; NONE: no such ones, it has not so many (the tape stays).");
         bounds("marks(n, 2)", 1, 5, -1, (x, n) -> x.marks(n, 2), FORTY);
         bounds("marks(2, k)", 1, 6, -1, (x, k) -> x.marks(2, k), 1, 2);
         refused("marks of none", -1, x -> x.marks(1, 1));
@@ -327,8 +377,8 @@ public final class CallBounds extends Bench {
     }
 
     private static void franked() {
-        sentence("The fewest stamps likewise for a value (1 to 600); -2: a value of 0, above 100; -3: it can't be; NONE:"
-            + " no such ones, it has not so many (the tape stays).");
+        sentence("The fewest stamps likewise for a value (1 to 600); -2: a value of 0, above 100; -3: it can't be;"
+            + " NONE: no such ones, it has not so many (the tape stays).");
         bounds("franked(n, 9)", 1, 5, -1, (x, n) -> x.franked(n, 9), FORTY);
         bounds("franked(2, value)", 1, 600, -1, (x, value) -> x.franked(2, value), 2, 4);
         refused("franked of none", -1, x -> x.franked(1, 1));
@@ -418,5 +468,38 @@ public final class CallBounds extends Bench {
         due("the tape", x.mule(3, 6, 2), 6);
         due("undo()", x.undo(), y.undo());
         same("undo()", portrait(x), portrait(y));
+    }
+
+    private static void lastCall() {
+        sentence("An object is used for at most 512 calls after it has been made; what later calls answer is free.");
+        HomesickStamps x = new HomesickStamps();
+        int calls = 0;
+        while (calls < 510) {
+            due("feed", x.feed(0x61000000, 0, 0, 0, 0), 20);
+            due("sheet(1)", x.sheet(1), 1);
+            calls += 2;
+        }
+        due("the 511th", x.days(100), 0);
+        due("the 512th", x.count(0), 100);
+    }
+
+    private static void itsOwnMemory() {
+        sentence("All memory is the post's own.");
+        HomesickStamps x = town(1, 2, 3);
+        String before = portrait(x);
+        HomesickStamps y = new HomesickStamps();
+        due("count(1) of another", y.count(1), 0);
+        due("undo() of another", y.undo(), false);
+        y.mint(0, 3, 3);
+        sheet(y, "9h");
+        post(y, "0@9,9;0+0;#1,1");
+        law(y, "p1(1=1)");
+        y.days(5);
+        y.keep();
+        bytes(y, 9, 9, 9);
+        same("another one's calls", portrait(x), before);
+        due("the tape", x.mule(3, 6, 2), 6);
+        due("the tape of another", y.mule(3, 27, 2), 27);
+        same("another one's calls", portrait(x), before);
     }
 }

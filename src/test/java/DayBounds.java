@@ -150,7 +150,7 @@ public final class DayBounds extends Bench {
     }
 
     private static void moreThanPaste() {
-        sentence("the greater of both sums (without signs) more than PASTE");
+        sentence("Is the LETTER IN no WALL and the greater of both sums (without signs) more than PASTE");
         holdsIt("p4(m=0)", 8);
         holdsIt("p4(m=1)", 8);
         holdsIt("p4(m=2)", 8);

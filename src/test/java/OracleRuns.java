@@ -1184,7 +1184,8 @@ public final class OracleRuns {
                 }
             }
             int lowest = on.isEmpty() ? -2 : on.get(0);
-            int[] all = {24 * now.y[l] + now.x[l], now.paste[l], now.inWall[l] ? 1 : 0, on.size(), lowest, across, along};
+            int place = 24 * now.y[l] + now.x[l];
+            int[] all = {place, now.paste[l], now.inWall[l] ? 1 : 0, on.size(), lowest, across, along};
             return all[what];
         }
 

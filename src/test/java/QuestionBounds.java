@@ -1,6 +1,7 @@
 /** What bounds the questions behind '==== 2.': DAYS that are tried, PLAIN PULLS, STAMPS told, pulls told. */
 public final class QuestionBounds extends Bench {
-    private static final String TOLD = "which of 1 to 9 STAMPS (told, by numbers) on a LETTER that lies at a PLACE";
+    private static final String TOLD = "STAMPED: which of 1 to 9 STAMPS (told, by numbers) on a LETTER that lies at a"
+        + " PLACE (no PASTE, others aside), by PLAIN PULLS";
 
     public static void main(String[] args) {
         triedChangesNothing();
@@ -35,7 +36,8 @@ public final class QuestionBounds extends Bench {
             same("tried(100, " + each + ")", portrait(x), before);
             due("count(7)", x.count(7), 20);
         }
-        Call[] others = {x -> x.comes(0, 383, 100), x -> x.atRest(0, 100), x -> x.meet(0, 7, 100), x -> x.again(3, 100)};
+        Call[] others = {x -> x.comes(0, 383, 100), x -> x.atRest(0, 100), x -> x.meet(0, 7, 100),
+            x -> x.again(3, 100)};
         for (Call other : others) {
             HomesickStamps x = town(1);
             String before = portrait(x);
@@ -461,9 +463,9 @@ public final class QuestionBounds extends Bench {
         due("no MINTS", x.printed(1), 0);
         x.mint(0, 0, 0);
         x.mint(7, 23, 15);
-        int[][] pulls = {{0, 0, 0, 1}, {0, 0, 5, 128}, {23, 15, 0, 128}, {23, 15, 10, 1}, {0, 15, 8, 1}, {0, 15, 1, 128},
-            {23, 0, 2, 1}, {23, 0, 4, 128}, {1, 1, 10, 1}, {22, 14, 5, 128}, {0, 0, 1, 0}, {0, 0, 4, 0}, {1, 1, 15, 0},
-            {1, 1, 16, 0}, {0, 0, 16, 0}, {1, 1, 26, 0}, {1, 1, 255, 0}};
+        int[][] pulls = {{0, 0, 0, 1}, {0, 0, 5, 128}, {23, 15, 0, 128}, {23, 15, 10, 1}, {0, 15, 8, 1},
+            {0, 15, 1, 128}, {23, 0, 2, 1}, {23, 0, 4, 128}, {1, 1, 10, 1}, {22, 14, 5, 128}, {0, 0, 1, 0},
+            {0, 0, 4, 0}, {1, 1, 15, 0}, {1, 1, 16, 0}, {0, 0, 16, 0}, {1, 1, 26, 0}, {1, 1, 255, 0}};
         for (int[] pull : pulls) {
             bytes(x, pull[0], pull[1], pull[2]);
             due("from " + pull[0] + ", " + pull[1] + " by " + pull[2], x.printed(1), pull[3]);

@@ -11,6 +11,7 @@ public final class RiddleBounds extends Bench {
         marksValues();
         franked();
         exchange();
+        exchangeInRings();
         exchangeRows();
         kept();
         undone();
@@ -83,7 +84,8 @@ public final class RiddleBounds extends Bench {
     }
 
     private static void mule() {
-        sentence("A MULE: 1 to 12 STAMPS of so many grains (0 to 255): the fewest that pull so much at least (0 to 3060)");
+        sentence("A MULE: 1 to 12 STAMPS of so many grains (0 to 255): the fewest that pull so much at least (0 to"
+            + " 3060)");
         int[] want = {12, 4095, 3060};
         int[] none = {0, 0, 0};
         for (int what = 0; what <= 2; what++) {
@@ -237,6 +239,26 @@ public final class RiddleBounds extends Bench {
         due("count(7)", x.count(7), 20);
         due("exchange(4, 3)", x.exchange(4, 3), 0);
         due("exchange(2, 0) of none", x.exchange(2, 0), -1);
+    }
+
+    private static void exchangeInRings() {
+        sentence("they change in rings, each pointing to the one whose stamp he likes best of those left, till all are"
+            + " gone: whose stamp each gets.");
+        // 0 and 1 change; 2 likes theirs best, then 5's, who likes 0's, then 2's; 3 and 4 like only what is gone
+        int[] rows = {1, 0, 2, 3, 4, 5, 0, 1, 2, 3, 4, 5, 0, 1, 5, 2, 3, 4, 0, 1, 2, 5, 3, 4, 5, 2, 1, 0, 4, 3,
+            0, 2, 1, 3, 4, 5};
+        int[] got = {1, 0, 5, 3, 4, 2};
+        // all keep their own: the last ring is one collector's
+        int[] own = {0, 1, 2, 0, 1, 2, 0, 1, 2};
+        for (int who = 0; who < 6; who++) {
+            HomesickStamps x = new HomesickStamps();
+            bytes(x, rows);
+            due("exchange(6, " + who + ")", x.exchange(6, who), got[who]);
+            if (who < 3) {
+                bytes(x, own);
+                due("exchange(3, " + who + ")", x.exchange(3, who), who);
+            }
+        }
     }
 
     private static void exchangeRows() {
