@@ -1,3 +1,5 @@
+import java.util.Arrays;
+
 /**
  * Each number that a call takes, promise by promise: the last ones that are taken, the first that are refused, and that
  * a call that is refused changes nothing.
@@ -38,6 +40,7 @@ public final class CallBounds extends Bench {
         check();
         count();
         refusedOnesTogether();
+        firstBytesOfTheTape();
         lastCall();
         itsOwnMemory();
         finish();
@@ -62,6 +65,7 @@ public final class CallBounds extends Bench {
         due("stampIs(0, 0)", x.stampIs(0, 0), -1);
         due("tried(1, 100)", x.tried(1, 100), -1);
         due("tried(1, 0)", x.tried(1, 0), 0);
+        due("tried(1, 2)", x.tried(1, 2), 0);
         due("undo()", x.undo(), false);
     }
 
@@ -468,6 +472,54 @@ public final class CallBounds extends Bench {
         due("the tape", x.mule(3, 6, 2), 6);
         due("undo()", x.undo(), y.undo());
         same("undo()", portrait(x), portrait(y));
+    }
+
+    /** The call answers so and leaves the same, whatever stands on the tape behind these bytes. */
+    private static void whateverIsBehind(String call, int want, Call asked, int... first) {
+        int[] behind = {0, 1, 2, 5, 7, 100, 255, 'a', 't', 'f', '0', '5', '9', ')', '(', ';', ',', '+', '1'};
+        String left = "";
+        for (int each : behind) {
+            int[] tape = Arrays.copyOf(first, 260);
+            Arrays.fill(tape, first.length, 260, each);
+            HomesickStamps x = town(tape);
+            due(call + " with " + each + " behind it", asked.on(x), want);
+            due(call + ", then count(7)", x.count(7), 0);
+            left = left.isEmpty() ? portrait(x) : left;
+            same(call + " with " + each + " behind it", portrait(x), left);
+        }
+    }
+
+    private static void firstBytesOfTheTape() {
+        sentence("by the first n bytes of the tape");
+        whateverIsBehind("sheet(1)", 1, x -> x.sheet(1), 'a');
+        whateverIsBehind("sheet(2)", 2, x -> x.sheet(2), '2', 'b');
+        whateverIsBehind("sheet(1)", -1001, x -> x.sheet(1), '2');
+        whateverIsBehind("sheet(2)", -1002, x -> x.sheet(2), '(', 'a');
+        whateverIsBehind("post(3)", 1, x -> x.post(3), bytesOf("0=4"));
+        whateverIsBehind("post(5)", 1, x -> x.post(5), bytesOf("0@1,1"));
+        whateverIsBehind("post(4)", -1004, x -> x.post(4), bytesOf("0@1,"));
+        whateverIsBehind("post(3)", -1003, x -> x.post(3), bytesOf("0@1"));
+        whateverIsBehind("post(1)", -1001, x -> x.post(1), bytesOf("0"));
+        whateverIsBehind("law(7)", 1, x -> x.law(7), bytesOf("h4(1=1)"));
+        whateverIsBehind("law(6)", -1006, x -> x.law(6), bytesOf("h4(1=1"));
+        whateverIsBehind("law(2)", -1002, x -> x.law(2), bytesOf("h4"));
+        whateverIsBehind("law(1)", -1001, x -> x.law(1), bytesOf("p"));
+        whateverIsBehind("stamped(2, ..)", 2, x -> x.stamped(2, place(5, 5), place(6, 5), 1, 1), 2, 0);
+        whateverIsBehind("hang(3, ..)", 7, x -> x.hang(3, place(5, 5), 1), 2, 2, 0);
+        whateverIsBehind("falseOnes(2, ..)", 2, x -> x.falseOnes(2, place(5, 5), -1, 0, 1), 2, 0);
+        whateverIsBehind("printed(1)", 15, x -> x.printed(1), 23, 15, 10);
+        whateverIsBehind("ship(3, 0)", 1, x -> x.ship(3, 0), 9, 4, 4);
+        whateverIsBehind("ship(3, 1)", 1, x -> x.ship(3, 1), 9, 4, 4);
+        whateverIsBehind("mule(3, 10, 1)", 3, x -> x.mule(3, 10, 1), 9, 4, 4);
+        whateverIsBehind("mule(3, 18, 1)", -2, x -> x.mule(3, 18, 1), 9, 4, 4);
+        whateverIsBehind("marks(2, 3)", 7, x -> x.marks(2, 3), 1, 3);
+        whateverIsBehind("franked(2, 600)", 100, x -> x.franked(2, 600), 4, 6);
+        whateverIsBehind("franked(2, 599)", -3, x -> x.franked(2, 599), 4, 6);
+        whateverIsBehind("exchange(2, 0)", 1, x -> x.exchange(2, 0), 1, 0, 0, 1);
+        whateverIsBehind("exchange(3, 2)", 0, x -> x.exchange(3, 2), RING);
+        whateverIsBehind("check(1)", -1, x -> x.check(1), 10);
+        whateverIsBehind("check(4)", 3, x -> x.check(4), 10, 255, 255, 10);
+        whateverIsBehind("check(0)", -1, x -> x.check(0));
     }
 
     private static void lastCall() {

@@ -28,6 +28,8 @@ public final class LawBounds extends Bench {
         seventeenthRule();
         seventhOpen();
         ruleStandsAhead();
+        inPlaceOfTheOneBefore();
+        refusedAgainAndAgain();
         finish();
     }
 
@@ -485,6 +487,13 @@ public final class LawBounds extends Bench {
         reads("x(123456=1)", -2007);
         reads("x(1=123456)", -2009);
         reads("x(1=1&1=1);h123456", -2017);
+        // wherever it stands, and whichever digit it is
+        reads("x(1=1|1=123450)", -2013);
+        reads("x(1=1&1=123459)", -2013);
+        reads("x(!1=123459)", -2010);
+        reads("x((1=123450))", -2010);
+        reads("p1*123459(1=1)", -2008);
+        reads("p1-[2%123450](1=1)", -2011);
         reads("p123456x", -2006);
     }
 
@@ -527,6 +536,12 @@ public final class LawBounds extends Bench {
         reads("x(!(1=1)&!!!!!1=1)", 1);
         reads("x(!(1=1&!!!!1=1))", -5011);
         reads("x(!(1=1&!!!1=1))", 1);
+        // wherever it stands
+        reads("x(1=1|((((((1=1))))))", -5011);
+        reads("x(1=1&[[[[[[1]]]]]]=1)", -5011);
+        reads("x(1=2*[[[[[[1]]]]]])", -5011);
+        reads("x(1=2+[[[[[[1]]]]]])", -5011);
+        reads("x(1=1);x(!!!!!!1=1)", -5014);
         // where it can't stand it is FAULT 1
         reads("x(((((([", -5007);
         reads("x(1=((((((1", -1004);
@@ -544,5 +559,37 @@ public final class LawBounds extends Bench {
         HomesickStamps x = reads("h[[[[[[1+2]*3]-4]*5]%7]*2](1=1)", 1);
         // ((1+2)*3-4)*5 % 7 * 2
         due("tried(1, 100)", x.tried(1, 100), 8);
+    }
+
+    private static void inPlaceOfTheOneBefore() {
+        sentence("in place of the one before: how many RULES");
+        HomesickStamps x = begun();
+        String most = "h0" + "+0".repeat(115) + "+7(1=01)";
+        for (int i = 0; i < 9; i++) {
+            due("law of 240 bytes", law(x, most), 1);
+            due("tried(1, 100)", x.tried(1, 100), 7);
+            due("law of 16 RULES", law(x, SIXTEEN), 16);
+            due("count(6)", x.count(6), 16);
+            due("tried(1, 100)", x.tried(1, 100), 5);
+        }
+        due("a FAULT", law(x, "h9(1=1);p1(1=1"), -1014);
+        due("count(6)", x.count(6), 16);
+        due("tried(1, 100)", x.tried(1, 100), 5);
+        due("law of one RULE", law(x, "h1(s=1)"), 1);
+        due("count(6)", x.count(6), 1);
+        due("tried(1, 100)", x.tried(1, 100), 0);
+        due("tried(1, 0)", x.tried(1, 0), 0);
+    }
+
+    private static void refusedAgainAndAgain() {
+        sentence("what is divided by 0 is REFUSED: then the whole C of the RULE does not hold, the E of it is 0.");
+        HomesickStamps x = begun();
+        law(x, "h1+[2+[3*[4-[5+[6*1/0]]]]](s=0);h1(2+[2+[2*1/0]]=1|1=1);h5(3>1&7*[1+2]=21)");
+        for (int i = 0; i < 3; i++) {
+            due("days(50)", x.days(50), 0);
+        }
+        due("stampIs(0, 2)", x.stampIs(0, 2), 0);
+        due("stampIs(2, 2)", x.stampIs(2, 2), 750);
+        due("tried(1, 102)", x.tried(1, 102), 755);
     }
 }

@@ -242,6 +242,8 @@ public final class PostBounds extends Bench {
         reads("0-000", -2004);
         reads("0=000", -2004);
         reads("0=0000", -2004);
+        reads("0=009", -2004);
+        reads("0@1,009", -2006);
         reads("#000,1", -2003);
         reads("#1,000", -2005);
         reads("#12,123", -2006);

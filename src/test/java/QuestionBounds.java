@@ -182,6 +182,14 @@ public final class QuestionBounds extends Bench {
         due("home(0, 1)", x.home(0, 1), 4);
         post(x, "0-2;0-3;0+4");
         due("home(0, 0), like ones", x.home(0, 0), 2);
+        // the first MINT and the last
+        sheet(x, "2ahg");
+        post(x, "0+0;0+2;0+3");
+        due("home(0, 0), like ones", x.home(0, 0), 0);
+        post(x, "0-0");
+        due("home(0, 0), like ones", x.home(0, 0), 6);
+        post(x, "0-3");
+        due("home(0, 0)", x.home(0, 0), 7);
         // the most that can be: all 48 of one MINT
         sheet(x, "6(8h)");
         for (int from = 0; from < 48; from += 16) {

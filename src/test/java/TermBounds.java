@@ -174,6 +174,19 @@ public final class TermBounds extends Bench {
         due("post 0@0,0", post(x, "0@0,0"), 1);
         due("count(2)", x.count(2), 129);
         due("letterIs(0, 0)", x.letterIs(0, 0), 0);
+        // the last one as the first: PASTE, STAMPS, steps, a WALL
+        x.mint(7, 9, 1);
+        sheet(x, "2h");
+        law(x, "p1(1=1)");
+        due("post 7=99", post(x, "7=99;7+1"), 2);
+        due("letterIs(7, 1)", x.letterIs(7, 1), 99);
+        due("tried(3, 17)", x.tried(3, 17), place(1, 1));
+        due("post 7=0", post(x, "7=0;#4,1"), 2);
+        due("letterIs(7, 1)", x.letterIs(7, 1), 0);
+        due("tried(2, 17)", x.tried(2, 17), place(3, 1));
+        due("days(3)", x.days(3), 2);
+        due("letterIs(7, 2)", x.letterIs(7, 2), 1);
+        due("letterIs(0, 2)", x.letterIs(0, 2), 0);
         due("all eight", post(x, "0@1,1;1@1,1;2@1,1;3@1,1;4@1,1;5@1,1;6@1,1;7@1,1"), 8);
         due("count(2)", x.count(2), 255);
         due("lying(25)", x.lying(25), 255);
