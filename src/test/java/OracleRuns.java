@@ -8,8 +8,11 @@ import java.util.Random;
  * THE LAW as a tree, FAULTS as exceptions, riddles by trying all.
  */
 public final class OracleRuns {
-    private static final int RUNS = 1500;
-    private static final int CALLS = 160;
+    private static final int RUNS = 3000;
+    // behind these the document leaves all answers free
+    private static final int CALLS = 512;
+    // a call ahead of thirteen feeds, and one behind them
+    private static final int DEAREST_STEP = 15;
     private static int wrong = 0;
 
     public static void main(String[] args) {
@@ -70,16 +73,16 @@ public final class OracleRuns {
         }
 
         void go() {
-            for (int i = 0; i < CALLS && !lost; i++) {
-                if (i < 12) {
-                    prepare(i);
+            for (int step = 0; !lost && told.size() + DEAREST_STEP <= CALLS; step++) {
+                if (step < 12) {
+                    prepare(step);
+                } else if (step % 4 == 3) {
+                    look(10);
                 } else {
                     call(random.nextInt(40));
                 }
-                if (i % 10 == 9) {
-                    lookAtAll();
-                }
             }
+            look(CALLS - told.size());
         }
 
         void prepare(int i) {
@@ -507,20 +510,22 @@ public final class OracleRuns {
             feed(bytes);
         }
 
-        void lookAtAll() {
-            for (int what = -1; what <= 9; what++) {
-                due("count(" + what + ")", real.count(what), oracle.count(what));
-            }
-            for (int l = -1; l <= 8; l++) {
-                for (int what = -1; what <= 7; what++) {
-                    due("letterIs(" + l + ", " + what + ")", real.letterIs(l, what), oracle.letterIs(l, what));
-                }
-                for (int what = -1; what <= 2; what++) {
+        void look(int times) {
+            for (int i = 0; i < times && !lost; i++) {
+                int l = random.nextInt(6) == 0 ? about(0, 7) : aToldLetter();
+                int kind = random.nextInt(8);
+                if (kind == 0) {
+                    int what = about(0, 8);
+                    due("count(" + what + ")", real.count(what), oracle.count(what));
+                } else if (kind == 1) {
+                    int what = about(0, 1);
                     due("home(" + l + ", " + what + ")", real.home(l, what), oracle.home(l, what));
-                }
-            }
-            for (int s = -1; s <= 48; s++) {
-                for (int what = -1; what <= 4; what++) {
+                } else if (kind < 5) {
+                    int what = about(0, 6);
+                    due("letterIs(" + l + ", " + what + ")", real.letterIs(l, what), oracle.letterIs(l, what));
+                } else {
+                    int s = about(0, Math.max(1, oracle.mints.length) - 1);
+                    int what = about(0, 3);
                     due("stampIs(" + s + ", " + what + ")", real.stampIs(s, what), oracle.stampIs(s, what));
                 }
             }

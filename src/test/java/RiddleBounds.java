@@ -68,6 +68,8 @@ public final class RiddleBounds extends Bench {
         due("two of 0", ship(1, 0, 0), 1);
         due("1 2 3", ship(1, 1, 2, 3), 3);
         due("3 2 1", ship(1, 3, 2, 1), 1);
+        // 3 alone to the left would be less bits, but then the first one is to the right
+        due("1 3 2", ship(1, 1, 3, 2), 5);
         due("1 1 1 1", ship(1, 1, 1, 1, 1), 3);
         due("ten of 0", ship(1, times(10, 0)), 1);
         due("ten of 255", ship(1, times(10, 255)), 31);
@@ -248,13 +250,25 @@ public final class RiddleBounds extends Bench {
         int[] rows = {1, 0, 2, 3, 4, 5, 0, 1, 2, 3, 4, 5, 0, 1, 5, 2, 3, 4, 0, 1, 2, 5, 3, 4, 5, 2, 1, 0, 4, 3,
             0, 2, 1, 3, 4, 5};
         int[] got = {1, 0, 5, 3, 4, 2};
-        // all keep their own: the last ring is one collector's
+        // all keep their own
         int[] own = {0, 1, 2, 0, 1, 2, 0, 1, 2};
+        // 1 and 2 change, so that 0 keeps his own in the end, though he points at them
+        int[] last = {1, 2, 0, 2, 1, 0, 1, 2, 0};
+        int[] gotLast = {0, 2, 1};
+        // 3 and 2 change, then 1, who liked 3's, and 0, who liked 2's, do
+        int[] pairs = {2, 1, 0, 3, 3, 0, 1, 2, 3, 0, 1, 2, 2, 1, 0, 3};
+        int[] gotPairs = {1, 0, 3, 2};
         for (int who = 0; who < 6; who++) {
             HomesickStamps x = new HomesickStamps();
             bytes(x, rows);
             due("exchange(6, " + who + ")", x.exchange(6, who), got[who]);
+            if (who < 4) {
+                bytes(x, pairs);
+                due("exchange(4, " + who + ")", x.exchange(4, who), gotPairs[who]);
+            }
             if (who < 3) {
+                bytes(x, last);
+                due("exchange(3, " + who + ")", x.exchange(3, who), gotLast[who]);
                 bytes(x, own);
                 due("exchange(3, " + who + ")", x.exchange(3, who), who);
             }

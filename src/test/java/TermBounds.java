@@ -79,11 +79,13 @@ public final class TermBounds extends Bench {
         // told or not: only h and a pull at 0, 0
         post(x, "0@0,0;0+0;0+1;0+7");
         due("letterIs(0, 5)", x.letterIs(0, 5), 4);
+        due("letterIs(0, 6)", x.letterIs(0, 6), 4);
         for (int m = 0; m < 8; m++) {
             due("mint(" + m + ", 2, 2)", x.mint(m, 2, 2), true);
         }
         due("count(1)", x.count(1), 255);
         due("letterIs(0, 5)", x.letterIs(0, 5), 6);
+        due("letterIs(0, 6)", x.letterIs(0, 6), 6);
     }
 
     private static void stamps() {
